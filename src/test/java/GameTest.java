@@ -118,6 +118,9 @@ public final class GameTest {
     private static void liars() {
         OvenPairs x = new OvenPairs();
         due.is("32 no REPORTS", x.liar(), OvenPairs.NONE);
+        x.report(4, 0, 0, 0);
+        due.is("32 the very first FITS", x.liar(), OvenPairs.NONE);
+        x.forget();
         x.report(4, 0, 5, 5);
         due.is("32 some FIT", x.liar(), OvenPairs.NONE);
         x.report(4, 0, 6, 6);

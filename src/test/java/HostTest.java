@@ -30,10 +30,12 @@ public final class HostTest {
             due.is("40 forty", x.sheet(3, sort, 40), 1);
             due.is("40 all 0", x.item(3, sort, 39), 0);
             x.write(3, 39, 1);
+            x.write(3, 0, 1);
             due.is("40 none", x.sheet(3, sort, 0), 1);
             due.is("40 no item", x.item(3, sort, 0), -12);
             x.sheet(3, sort, 40);
             due.is("40 all 0 again", x.item(3, sort, 39), 0);
+            due.is("40 all 0 again", x.item(3, sort, 0), 0);
             due.is("40 a refusal changes nothing", x.sheet(3, 0, 41), OvenPairs.BAD);
             due.is("40 it is there", x.item(3, sort, 39), 0);
             due.is("40 missing, whatever n is", x.sheet(3, -1, sort % 2 == 0 ? -9 : 99), 1);

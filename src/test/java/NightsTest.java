@@ -146,6 +146,11 @@ public final class NightsTest {
         lure.oven(3, 1, 0, 1);
         due.is("17 warmer than 5, both long for the doored one", lure.warmFor(2), 6);
         due.is("17 asked only", lure.on(1), 3);
+        lure.change(0, 1, 8);
+        lure.change(1, 1, 8);
+        due.is("17 the most", lure.warmFor(2), 9);
+        Due.tell(lure, "portable if place > 14 stay;");
+        due.is("16 the most", lure.placeFor(0), 15);
         Due.tell(lure, "portable if place > 3 stay;");
         due.is("16 where the RULE holds", lure.placeFor(0), 4);
         Due.tell(lure, "portable if warm > 6 stay;");

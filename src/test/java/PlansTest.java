@@ -7,6 +7,9 @@ public final class PlansTest {
         couple();
         over();
         worthBeforeActs();
+        actsFollowTheTown();
+        oneActAlone();
+        noActAtAll();
         keptAndBars();
         refusals();
         due.end();
@@ -74,12 +77,73 @@ public final class PlansTest {
         OvenPairs x = new OvenPairs();
         x.oven(5, 5, 0, 9);
         x.oven(5, 5, 0, 9);
+        due.is("22 the odd NIGHT is worth nothing", x.best(2), 18);
+        due.is("23 so nobody need be chained in it", x.ith(2, 0) * 10 + x.ith(2, 1), 10);
         due.is("22 even NIGHTS", x.best(3), 36);
         due.is("23 in odd ones it must be chained, too", x.ith(3, 0) * 100 + x.ith(3, 1) * 10 + x.ith(3, 2), 111);
         x.ends(2);
         due.is("22 the second bakes nothing", x.best(2), 18);
         due.is("23 so nobody is chained in it", x.ith(2, 0) * 10 + x.ith(2, 1), 10);
         due.is("24 any ACT in it", x.ways(2), 6);
+    }
+
+    private static void actsFollowTheTown() {
+        OvenPairs x = two();
+        x.change(1, 4, 2);
+        due.is("22 one is away, then both bake", x.best(2), 10);
+        due.is("23 chained when it is back", x.ith(2, 0) * 10 + x.ith(2, 1), 1);
+        due.is("23 and then on", x.ith(4, 1) * 100 + x.ith(4, 2) * 10 + x.ith(4, 3), 111);
+        due.is("26 it is back behind two", x.bars(2, 2), OvenPairs.NONE);
+        due.is("26 not behind one", x.bars(1, 2), 1);
+        x.ends(2);
+        due.is("26 two are left", x.bars(4, 2), OvenPairs.NONE);
+        OvenPairs far = two();
+        far.change(1, 2, 8);
+        due.is("25 a chain in each of four NIGHTS", far.kept(4, 3), 4);
+    }
+
+    /** Both ranges would go with the portable, but not with one another: only the last one chained keeps all. */
+    private static void oneActAlone() {
+        OvenPairs x = new OvenPairs();
+        x.oven(2, 5, 0, 1);
+        x.oven(2, 4, 0, 1);
+        x.oven(4, 9, 0, 1);
+        due.is("22 all bake", x.best(3), 15);
+        due.is("23 the last one", x.ith(3, 0) * 100 + x.ith(3, 1) * 10 + x.ith(3, 2), 333);
+        due.is("24 one PLAN", x.ways(3), 1);
+        due.is("25 each time", x.kept(3, 7), 3);
+        due.is("26 it is at home by that ACT alone", x.bars(1, 4), OvenPairs.NONE);
+        due.is("27 then the other one lets two go", x.game(2), 7);
+        due.is("28 the last one", x.play(2), 3);
+        due.is("28 the last one", x.play(1), 3);
+    }
+
+    /** The first longs for the second, that for the third, that for the first: whoever is chained, the others go. */
+    private static OvenPairs ring() {
+        OvenPairs x = new OvenPairs();
+        x.oven(4, 7, 0, 3);
+        x.oven(4, 9, 5, 4);
+        x.oven(1, 8, 0, 4);
+        return x;
+    }
+
+    private static void noActAtAll() {
+        OvenPairs x = ring();
+        for (int n = 1; n <= 4; n++) {
+            due.is("22 nobody goes", x.best(n), 9 * n);
+            due.is("23 nobody is chained", x.ith(n, n - 1), 0);
+            due.is("24 in one PLAN", x.ways(n), 1);
+            due.is("25 none is needed", x.kept(n, 7), 0);
+        }
+        due.is("27 the other one chains", x.game(2), 11);
+        due.is("28 the first doesn't", x.play(2), 0);
+        x.ends(2);
+        due.is("27 to END", x.game(4), 11);
+        due.is("24 to END", x.ways(4), 1);
+        x.ends(1);
+        due.is("27 one NIGHT", x.game(4), 9);
+        due.is("24 one NIGHT", x.ways(4), 1);
+        due.is("22 one NIGHT", x.best(4), 9);
     }
 
     private static void keptAndBars() {

@@ -4,6 +4,7 @@ public final class RowsTest {
 
     public static void main(String[] args) {
         prove();
+        proveFollowsTheTown();
         alter();
         judge();
         due.end();
@@ -50,6 +51,21 @@ public final class RowsTest {
         x.night();
         due.is("36 OVER", x.prove(4), 0);
         due.is("39 OVER, but no ROWS", x.judge(), 0);
+    }
+
+    private static void proveFollowsTheTown() {
+        OvenPairs x = two();
+        x.change(1, 4, 2);
+        due.is("36 two", x.prove(2), 2);
+        row(x, 0, 0, 3, 1);
+        row(x, 1, 1, 3, 3);
+        due.is("39 right", x.judge(), 0);
+        OvenPairs rakes = new OvenPairs();
+        rakes.oven(5, 5, 0, 9);
+        rakes.oven(5, 5, 0, 9);
+        due.is("36 two", rakes.prove(2), 2);
+        row(rakes, 0, 1, 18, 3);
+        row(rakes, 1, 0, 0, 0);
     }
 
     private static void alter() {

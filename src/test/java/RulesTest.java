@@ -92,6 +92,14 @@ public final class RulesTest {
         fault("oven go;" + (char) 0, 8);
         fault("range dooredly", 6);
         fault("if go;", 0);
+        fault("oven goz;", 5);
+        fault("oven zgo;", 5);
+        fault("portables go;", 0);
+        fault("uven go;", 0);
+        fault("oven if 1=1 or go;", 15);
+        fault("oven if not go;", 12);
+        fault("oven if (1=1 or go;", 16);
+        fault(";".repeat(200), 0);
         fault("oven if 1 = 1 1 go;", 14);
         fault("oven if night = nights go;", 16);
         StringBuilder nots = new StringBuilder("oven if ");
@@ -106,6 +114,8 @@ public final class RulesTest {
 
     private static void replaced() {
         OvenPairs x = new OvenPairs();
+        due.is("11 five digits", Due.tell(x, "oven if 1=12345"), -110);
+        due.is("11 what THE TAPE had before counts nothing", Due.tell(x, "oven if 1=1234"), -114);
         x.oven(2, 3, 3, 3);
         due.is("11 three", Due.tell(x, "rake go; oven stay; oven shy;"), 3);
         due.is("11 the first that tells", x.ovenOf(0, 6), 1);

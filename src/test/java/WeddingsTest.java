@@ -120,6 +120,12 @@ public final class WeddingsTest {
         due.is("21 nobody goes", x.chains(0) + x.chains(1), 0);
         Due.tell(x, "oven if night < 11 stay;");
         due.is("21 in the last NIGHT", x.chains(1), 2);
+        Due.tell(x, "oven if night < 12 stay;");
+        due.is("21 END is no NIGHT of THE REST", x.chains(1), 0);
+        x.rules();
+        x.change(1, 4, 5);
+        x.change(2, 4, 6);
+        due.is("21 when they are back", x.chains(1), 2);
         x.change(1, 4, 9);
         x.change(2, 4, 9);
         x.ends(8);
