@@ -111,7 +111,8 @@ public final class PlansTest {
         due.is("22 all bake", x.best(3), 15);
         due.is("23 the last one", x.ith(3, 0) * 100 + x.ith(3, 1) * 10 + x.ith(3, 2), 333);
         due.is("24 one PLAN", x.ways(3), 1);
-        due.is("25 each time", x.kept(3, 7), 3);
+        due.is("25 each time", x.kept(2, 7), 2);
+        due.is("25 or when they are back", x.kept(3, 7), 1);
         due.is("26 it is at home by that ACT alone", x.bars(1, 4), OvenPairs.NONE);
         due.is("27 then the other one lets two go", x.game(2), 7);
         due.is("28 the last one", x.play(2), 3);
