@@ -534,7 +534,14 @@ public final class OvenPairs {
         int o = shelfThings[shelf];
         deed.number = o;
         deed.fire = town.fire[o];
-        int answer = actOf(town.kinds[town.kind[o]], act, x);
+        Oven thing = town.kinds[town.kind[o]];
+        int answer;
+        switch (act) {
+            case 0: answer = thing.glows(deed, x); break;
+            case 1: answer = thing.longs(deed, x); break;
+            case 2: answer = thing.parts(deed, x); break;
+            default: answer = thing.weds(deed, x); break;
+        }
         return deed.parted ? PARTED : answer;
     }
 
@@ -673,15 +680,6 @@ public final class OvenPairs {
     private int heldOn(int shelf) {
         boolean gone = shelfHolds[shelf] == HOLDS_OVEN && !isOven(shelfThings[shelf]);
         return gone ? HOLDS_NOTHING : shelfHolds[shelf];
-    }
-
-    private int actOf(Oven thing, int act, int x) {
-        switch (act) {
-            case 0: return thing.glows(deed, x);
-            case 1: return thing.longs(deed, x);
-            case 2: return thing.parts(deed, x);
-            default: return thing.weds(deed, x);
-        }
     }
 
     /** The thing that acts, and the bodies that ran. */
@@ -872,7 +870,6 @@ public final class OvenPairs {
             place[o] = itsPlace;
             fire[o] = itsFire;
             count++;
-            replaceAway(o, 0);
             settle(o);
             return o;
         }
@@ -1148,14 +1145,16 @@ public final class OvenPairs {
             int most = -1;
             int least = 0;
             for (int v = 0; v <= top; v++) {
-                town.replace(values, o, v);
+                values[o] = v;
+                town.settle(o);
                 int worth = restWorth(MOST_NIGHTS);
                 if (worth > most) {
                     most = worth;
                     least = v;
                 }
             }
-            town.replace(values, o, was);
+            values[o] = was;
+            town.settle(o);
             return least;
         }
 
@@ -1533,17 +1532,11 @@ public final class OvenPairs {
             return number;
         }
 
-        private void advance() {
-            if (at < wordCount) {
-                at++;
-            }
-        }
-
         /** Goes behind a word, if its code lies between two; else stays, for there is the fault. */
         private boolean pass(int least, int most) {
-            boolean can = codes[at] >= least && codes[at] <= most;
+            boolean can = at < wordCount && codes[at] >= least && codes[at] <= most;
             if (can) {
-                advance();
+                at++;
             }
             return can;
         }

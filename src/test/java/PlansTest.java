@@ -168,6 +168,9 @@ public final class PlansTest {
         due.is("26 the least of two", x.bars(2, 7), 1);
         due.is("26 the other one", x.bars(2, 5), 2);
         due.is("26 now", x.bars(0, 6), 1);
+        x.change(0, 4, 5);
+        due.is("26 the first isn't back in four", x.bars(4, 1), 0);
+        x.change(0, 4, 0);
         due.is("26 asked only", x.state(4), 1);
         OvenPairs y = new OvenPairs();
         for (int k = 0; k < 4; k++) y.oven(4, 5, 0, 1);
