@@ -199,7 +199,7 @@ public final class OvenPairs {
         if (!isBetween(what, 0, 1)) {
             return BAD;
         }
-        int most = outlook.mostWed(town.everybody(), 0);
+        int most = outlook.mostWeddings();
         return what == 0 ? most / Outlook.PAIR : most % Outlook.PAIR;
     }
 
@@ -218,7 +218,7 @@ public final class OvenPairs {
     // ---- plans
 
     public int best(int n) {
-        return isPlan(n) ? outlook.mostWorth(town.aways, town.night, n) : BAD;
+        return isPlan(n) ? outlook.bestWorth(n) : BAD;
     }
 
     public int ith(int n, int i) {
@@ -237,18 +237,14 @@ public final class OvenPairs {
     }
 
     public int ways(int n) {
-        if (!isPlan(n)) {
-            return BAD;
-        }
-        int most = outlook.mostWorth(town.aways, town.night, n);
-        return outlook.plansWorth(town.aways, town.night, n, most);
+        return isPlan(n) ? outlook.bestWays(n) : BAD;
     }
 
     public int kept(int n, int set) {
         if (!isPlan(n) || !isOvenSet(set)) {
             return BAD;
         }
-        int fewest = outlook.fewestActs(town.aways, town.night, n, set);
+        int fewest = outlook.actsTillHome(n, set);
         return fewest > MOST_PLAN ? NONE : fewest;
     }
 
@@ -256,14 +252,14 @@ public final class OvenPairs {
         if (!isPlan(n) || !isOvenSet(set)) {
             return BAD;
         }
-        int barred = set & ~outlook.homeBehindSome(town.aways, town.night, n);
+        int barred = set & ~outlook.everHome(n);
         return barred == 0 ? NONE : Integer.numberOfTrailingZeros(barred);
     }
 
     // ---- a game, strange ovens, lots
 
     public int game(int n) {
-        return isGame(n) ? outlook.gameValue(town.aways, town.night, n, true) : BAD;
+        return isGame(n) ? outlook.valueOfGame(n) : BAD;
     }
 
     public int play(int n) {
@@ -1180,22 +1176,28 @@ public final class OvenPairs {
             return fewest;
         }
 
-        private int weddingOf(int o, int other) {
+        private static int weddingOf(Town town, int o, int other) {
             return PAIR + town.wishOf(o, other) + town.wishOf(other, o);
         }
 
-        /** MOST of those OVENS of a set from one on: PAIR for each pair, and their LONGING. */
-        int mostWed(int set, int from) {
+        /** PAIR for each pair, and the LONGING of all in pairs together. */
+        int mostWeddings() {
+            return mostWed(town, town.everybody(), 0);
+        }
+
+        /** MOST of those OVENS of a set from one on, counted likewise. */
+        private static int mostWed(Town town, int set, int from) {
             if (from >= town.count) {
                 return 0;
             }
-            int most = mostWed(set, from + 1);
+            int most = mostWed(town, set, from + 1);
             if ((set >> from & 1) == 0) {
                 return most;
             }
             for (int other = from + 1; other < town.count; other++) {
                 if ((set >> other & 1) != 0 && town.isPair(from, other)) {
-                    most = Math.max(most, weddingOf(from, other) + mostWed(set & ~(1 << other), from + 1));
+                    int wed = weddingOf(town, from, other) + mostWed(town, set & ~(1 << other), from + 1);
+                    most = Math.max(most, wed);
                 }
             }
             return most;
@@ -1203,10 +1205,10 @@ public final class OvenPairs {
 
         /** The least mate by which the OVENS of a set, from one of them on, still come to MOST. */
         private int firstMate(int set, int from) {
-            int most = mostWed(set, from);
+            int most = mostWed(town, set, from);
             for (int other = from + 1; other < town.count; other++) {
                 if ((set >> other & 1) != 0 && town.isPair(from, other)
-                        && weddingOf(from, other) + mostWed(set & ~(1 << other), from + 1) == most) {
+                        && weddingOf(town, from, other) + mostWed(town, set & ~(1 << other), from + 1) == most) {
                     return other;
                 }
             }
@@ -1227,14 +1229,18 @@ public final class OvenPairs {
             return NOBODY;
         }
 
-        int mostWorth(int aways, int night, int left) {
+        int bestWorth(int n) {
+            return mostWorth(town, town.aways, town.night, n);
+        }
+
+        private static int mostWorth(Town town, int aways, int night, int left) {
             if (left <= 0 || night >= town.end) {
                 return 0;
             }
             int most = 0;
             for (int act = 0; act <= town.count; act++) {
                 int then = town.after(aways, night, chainOf(act));
-                most = Math.max(most, town.worthOf(then, night) + mostWorth(then, night + 1, left - 1));
+                most = Math.max(most, town.worthOf(then, night) + mostWorth(town, then, night + 1, left - 1));
             }
             return most;
         }
@@ -1244,7 +1250,7 @@ public final class OvenPairs {
             int most = -1;
             for (int act = 0; act <= town.count; act++) {
                 int then = town.after(aways, night, chainOf(act));
-                int worth = town.worthOf(then, night) + mostWorth(then, night + 1, left - 1);
+                int worth = town.worthOf(then, night) + mostWorth(town, then, night + 1, left - 1);
                 if (worth > most) {
                     most = worth;
                     first = act;
@@ -1253,52 +1259,69 @@ public final class OvenPairs {
             return first;
         }
 
-        int plansWorth(int aways, int night, int left, int worth) {
+        int bestWays(int n) {
+            int most = mostWorth(town, town.aways, town.night, n);
+            return plansWorth(town, town.aways, town.night, n, most);
+        }
+
+        private static int plansWorth(Town town, int aways, int night, int left, int worth) {
             if (left <= 0 || night >= town.end) {
                 return worth == 0 ? 1 : 0;
             }
             int found = 0;
             for (int act = 0; act <= town.count; act++) {
                 int then = town.after(aways, night, chainOf(act));
-                found += plansWorth(then, night + 1, left - 1, worth - town.worthOf(then, night));
+                found += plansWorth(town, then, night + 1, left - 1, worth - town.worthOf(then, night));
             }
             return found;
         }
 
         /** Above all that a PLAN can have, if no PLAN leads there. */
-        int fewestActs(int aways, int night, int left, int set) {
+        int actsTillHome(int n, int set) {
+            return fewestActs(town, town.aways, town.night, n, set);
+        }
+
+        private static int fewestActs(Town town, int aways, int night, int left, int set) {
             if (left <= 0 || night >= town.end) {
                 return (town.homeSet(aways) & set) == set ? 0 : UNREACHED;
             }
             int fewest = UNREACHED;
             for (int act = 0; act <= town.count; act++) {
                 int then = town.after(aways, night, chainOf(act));
-                int acts = (act == 0 ? 0 : 1) + fewestActs(then, night + 1, left - 1, set);
+                int acts = (act == 0 ? 0 : 1) + fewestActs(town, then, night + 1, left - 1, set);
                 fewest = Math.min(fewest, acts);
             }
             return fewest;
         }
 
-        int homeBehindSome(int aways, int night, int left) {
+        int everHome(int n) {
+            return homeBehindSome(town, town.aways, town.night, n);
+        }
+
+        private static int homeBehindSome(Town town, int aways, int night, int left) {
             if (left <= 0 || night >= town.end) {
                 return town.homeSet(aways);
             }
             int set = 0;
             for (int act = 0; act <= town.count; act++) {
                 int then = town.after(aways, night, chainOf(act));
-                set |= homeBehindSome(then, night + 1, left - 1);
+                set |= homeBehindSome(town, then, night + 1, left - 1);
             }
             return set;
         }
 
-        int gameValue(int aways, int night, int left, boolean wantsMost) {
+        int valueOfGame(int n) {
+            return gameValue(town, town.aways, town.night, n, true);
+        }
+
+        private static int gameValue(Town town, int aways, int night, int left, boolean wantsMost) {
             if (left <= 0 || night >= town.end) {
                 return 0;
             }
             int value = 0;
             for (int act = 0; act <= town.count; act++) {
                 int then = town.after(aways, night, chainOf(act));
-                int worth = town.worthOf(then, night) + gameValue(then, night + 1, left - 1, !wantsMost);
+                int worth = town.worthOf(then, night) + gameValue(town, then, night + 1, left - 1, !wantsMost);
                 boolean better = wantsMost ? worth > value : worth < value;
                 if (act == 0 || better) {
                     value = worth;
@@ -1312,7 +1335,7 @@ public final class OvenPairs {
             int most = -1;
             for (int act = 0; act <= town.count; act++) {
                 int then = town.after(town.aways, town.night, chainOf(act));
-                int worth = town.worthOf(then, town.night) + gameValue(then, town.night + 1, n - 1, false);
+                int worth = town.worthOf(then, town.night) + gameValue(town, then, town.night + 1, n - 1, false);
                 if (worth > most) {
                     most = worth;
                     first = act;

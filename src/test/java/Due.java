@@ -11,6 +11,17 @@ final class Due {
         }
     }
 
+    /** Two rows of answers, one a line: the first lines that are unlike are told. */
+    void same(String what, String got, String want) {
+        held++;
+        if (got.equals(want)) return;
+        wrong++;
+        String[] a = got.split("\n"), b = want.split("\n");
+        int k = 0;
+        while (k < a.length - 1 && k < b.length - 1 && a[k].equals(b[k])) k++;
+        System.out.println(what + ": [" + a[k] + "], due is [" + b[k] + "]");
+    }
+
     /** Exits with 1 if an answer was wrong, or if nothing was held at all. */
     void end() {
         System.out.println(held + " answers, " + wrong + " not as due");

@@ -23,7 +23,12 @@ public final class LanguageTest {
     public static void main(String[] args) throws Exception {
         face();
         classes();
-        text(Files.readString(Path.of("src/main/java/OvenPairs.java")));
+        String source = Files.readString(Path.of("src/main/java/OvenPairs.java"));
+        text(source);
+        Calls calls = new Calls(source);
+        no("rule 11: calls at most eight deep, but " + calls.deepest, calls.deepest.size() > 8);
+        no("rule 11: calls were found at all, " + calls.deepest, calls.deepest.size() < 6);
+        no("rule 8: not private and static: " + calls.openRecursions, !calls.openRecursions.isEmpty());
         due.end();
     }
 

@@ -44,6 +44,7 @@ public final class ModelTest {
     private final Model m = new Model();
     private final StringBuilder told = new StringBuilder();
     private final double oddness;
+    private int answers = 0;
 
     private ModelTest(int run) {
         this.run = run;
@@ -55,7 +56,8 @@ public final class ModelTest {
         int ovens = random.nextInt(7);
         for (int k = 0; k < ovens; k++) call(0);
         int calls = 60 + random.nextInt(200);
-        for (int k = 0; k < calls && wrong < 10; k++) {
+        // behind 512 calls all answers are free; one turn makes fewer than 40
+        for (int k = 0; k < calls && answers < 470 && wrong < 10; k++) {
             int which = random.nextInt(NAMES.length + 4);
             if (which >= NAMES.length) feedRules(); else call(which);
         }
@@ -71,6 +73,7 @@ public final class ModelTest {
 
     private void hold(int which, String call, int got, int due) {
         asked[which]++;
+        answers++;
         if (due >= 0) welcomed[which]++;
         told.append(call).append(" = ").append(due).append('\n');
         if (got != due) {
