@@ -27,6 +27,7 @@ public final class OvensEdgesTest {
         overFromEndOn();
         anewFromAnywhere();
         whatOfState();
+        theLastOf512Calls();
         twinsHold();
         due.end();
     }
@@ -312,6 +313,19 @@ public final class OvensEdgesTest {
             due.is("9 all but " + o, x.state(4), 63 - (1 << o));
             x.change(o, 4, 0);
         }
+    }
+
+    private static void theLastOf512Calls() {
+        OvenPairs x = full();
+        for (int call = 7; call < 512; call++) x.seed(call);
+        due.is("the 512th call", x.seed(0), 511);
+        OvenPairs y = full();
+        for (int call = 7; call < 511; call += 2) {
+            due.is("a NIGHT at call " + call, y.night() >= 0 ? 1 : 0, 1);
+            due.is("and back at call " + (call + 1), y.anew(), 1);
+        }
+        due.is("the 511th call", y.on(16) == full().on(16) ? 1 : 0, 1);
+        due.is("the 512th call", y.state(4), 63);
     }
 
     /** The twins would see it, if a refused call changed something after all. */
