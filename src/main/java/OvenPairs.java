@@ -1,6 +1,6 @@
 /**
  * A baking town whose ovens elope. The document shared/DOC.md numbers what each call promises.
- * Everything that a call needs is made by the constructor, so that asking makes no objects.
+ * The constructor makes all rows that calls use again, so that only rules() makes objects.
  */
 public final class OvenPairs {
     public static final int BAD = -1, FULL = -2, NONE = -3, STATE = -4;
@@ -25,7 +25,6 @@ public final class OvenPairs {
 
     private final Town town = new Town();
     private final Town saved = new Town();
-    private final Outlook outlook = new Outlook(town);
     private final RulesReader reader = new RulesReader();
     private final Deed deed = new Deed();
     private final int[] rows = new int[MOST_PLAN * ROW_PARTS];
@@ -162,23 +161,23 @@ public final class OvenPairs {
     }
 
     public int on(int n) {
-        return isBetween(n, 0, MOST_NIGHTS) ? outlook.restWorth(n) : BAD;
+        return isBetween(n, 0, MOST_NIGHTS) ? Outlook.restWorth(town, n) : BAD;
     }
 
     public int goes(int o) {
-        return isOven(o) ? outlook.firstGoing(o) : BAD;
+        return isOven(o) ? Outlook.firstGoing(town, o) : BAD;
     }
 
     public int often(int o) {
-        return isOven(o) ? outlook.goings(o) : BAD;
+        return isOven(o) ? Outlook.goings(town, o) : BAD;
     }
 
     public int placeFor(int o) {
-        return isOven(o) ? outlook.bestSetting(town.place, o, MOST_PLACE) : BAD;
+        return isOven(o) ? Outlook.bestSetting(town, town.place, o, MOST_PLACE) : BAD;
     }
 
     public int warmFor(int o) {
-        return isOven(o) ? outlook.bestSetting(town.warm, o, MOST_WARM) : BAD;
+        return isOven(o) ? Outlook.bestSetting(town, town.warm, o, MOST_WARM) : BAD;
     }
 
     // ---- weddings, chains
@@ -199,26 +198,26 @@ public final class OvenPairs {
         if (!isBetween(what, 0, 1)) {
             return BAD;
         }
-        int most = outlook.mostWeddings();
+        int most = Outlook.mostWeddings(town);
         return what == 0 ? most / Outlook.PAIR : most % Outlook.PAIR;
     }
 
     public int mate(int o) {
-        return isOven(o) ? outlook.mateOf(o) : BAD;
+        return isOven(o) ? Outlook.mateOf(town, o) : BAD;
     }
 
     public int chains(int what) {
         if (!isBetween(what, 0, 1)) {
             return BAD;
         }
-        int set = outlook.fewestChains();
+        int set = Outlook.fewestChains(town);
         return what == 0 ? set : Integer.bitCount(set);
     }
 
     // ---- plans
 
     public int best(int n) {
-        return isPlan(n) ? outlook.bestWorth(n) : BAD;
+        return isPlan(n) ? Outlook.bestWorth(town, n) : BAD;
     }
 
     public int ith(int n, int i) {
@@ -230,21 +229,21 @@ public final class OvenPairs {
         }
         int aways = town.aways;
         for (int k = 0; k < i; k++) {
-            int act = outlook.firstBestAct(aways, town.night + k, n - k);
+            int act = Outlook.firstBestAct(town, aways, town.night + k, n - k);
             aways = town.after(aways, town.night + k, chainOf(act));
         }
-        return outlook.firstBestAct(aways, town.night + i, n - i);
+        return Outlook.firstBestAct(town, aways, town.night + i, n - i);
     }
 
     public int ways(int n) {
-        return isPlan(n) ? outlook.bestWays(n) : BAD;
+        return isPlan(n) ? Outlook.bestWays(town, n) : BAD;
     }
 
     public int kept(int n, int set) {
         if (!isPlan(n) || !isOvenSet(set)) {
             return BAD;
         }
-        int fewest = outlook.actsTillHome(n, set);
+        int fewest = Outlook.actsTillHome(town, n, set);
         return fewest > MOST_PLAN ? NONE : fewest;
     }
 
@@ -252,21 +251,21 @@ public final class OvenPairs {
         if (!isPlan(n) || !isOvenSet(set)) {
             return BAD;
         }
-        int barred = set & ~outlook.everHome(n);
+        int barred = set & ~Outlook.everHome(town, n);
         return barred == 0 ? NONE : Integer.numberOfTrailingZeros(barred);
     }
 
     // ---- a game, strange ovens, lots
 
     public int game(int n) {
-        return isGame(n) ? outlook.valueOfGame(n) : BAD;
+        return isGame(n) ? Outlook.valueOfGame(town, n) : BAD;
     }
 
     public int play(int n) {
         if (!isGame(n)) {
             return BAD;
         }
-        return town.isOver() ? NONE : outlook.firstMove(n);
+        return town.isOver() ? NONE : Outlook.firstMove(town, n);
     }
 
     public int report(int kind, int place, int least, int most) {
@@ -356,7 +355,7 @@ public final class OvenPairs {
         int aways = town.aways;
         for (int k = 0; k < rowCount; k++) {
             int night = town.night + k;
-            int act = outlook.firstBestAct(aways, night, n - k);
+            int act = Outlook.firstBestAct(town, aways, night, n - k);
             aways = town.after(aways, night, chainOf(act));
             rows[k * ROW_PARTS] = act;
             rows[k * ROW_PARTS + 1] = town.worthOf(aways, night);
@@ -1083,19 +1082,13 @@ public final class OvenPairs {
         }
     }
 
-    /** Looks ahead: nothing in it changes the town. */
+    /** Looks ahead from how a town is; it holds nothing itself, and leaves the town as it was. */
     private static final class Outlook {
         /** One pair more outweighs all LONGING that six OVENS can have. */
         static final int PAIR = 1000;
         private static final int UNREACHED = 1000;
 
-        private final Town town;
-
-        Outlook(Town town) {
-            this.town = town;
-        }
-
-        int restWorth(int n) {
+        static int restWorth(Town town, int n) {
             int aways = town.aways;
             int worth = 0;
             for (int k = 0; k < town.nightsOf(n); k++) {
@@ -1106,15 +1099,15 @@ public final class OvenPairs {
         }
 
         /** AWAY grows only when one goes off. */
-        private boolean went(int before, int then, int o) {
+        private static boolean went(Town town, int before, int then, int o) {
             return town.awayOf(then, o) > town.awayOf(before, o);
         }
 
-        int firstGoing(int o) {
+        static int firstGoing(Town town, int o) {
             int aways = town.aways;
             for (int night = town.night; night < town.end; night++) {
                 int then = town.after(aways, night, 0);
-                if (went(aways, then, o)) {
+                if (went(town, aways, then, o)) {
                     return night;
                 }
                 aways = then;
@@ -1122,12 +1115,12 @@ public final class OvenPairs {
             return NONE;
         }
 
-        int goings(int o) {
+        static int goings(Town town, int o) {
             int aways = town.aways;
             int found = 0;
             for (int night = town.night; night < town.end; night++) {
                 int then = town.after(aways, night, 0);
-                if (went(aways, then, o)) {
+                if (went(town, aways, then, o)) {
                     found++;
                 }
                 aways = then;
@@ -1136,14 +1129,14 @@ public final class OvenPairs {
         }
 
         /** The least value (0 to top) of an OVEN with which THE REST is WORTH most; the OVEN is put back as it was. */
-        int bestSetting(int[] values, int o, int top) {
+        static int bestSetting(Town town, int[] values, int o, int top) {
             int was = values[o];
             int most = -1;
             int least = 0;
             for (int v = 0; v <= top; v++) {
                 values[o] = v;
                 town.settle(o);
-                int worth = restWorth(MOST_NIGHTS);
+                int worth = restWorth(town, MOST_NIGHTS);
                 if (worth > most) {
                     most = worth;
                     least = v;
@@ -1154,7 +1147,7 @@ public final class OvenPairs {
             return least;
         }
 
-        private boolean nobodyGoes(int chained) {
+        private static boolean nobodyGoes(Town town, int chained) {
             int aways = town.aways;
             for (int night = town.night; night < town.end; night++) {
                 int then = town.after(aways, night, chained);
@@ -1166,10 +1159,10 @@ public final class OvenPairs {
             return true;
         }
 
-        int fewestChains() {
+        static int fewestChains(Town town) {
             int fewest = town.everybody();
             for (int set = 0; set < town.everybody(); set++) {
-                if (Integer.bitCount(set) < Integer.bitCount(fewest) && nobodyGoes(set)) {
+                if (Integer.bitCount(set) < Integer.bitCount(fewest) && nobodyGoes(town, set)) {
                     fewest = set;
                 }
             }
@@ -1181,7 +1174,7 @@ public final class OvenPairs {
         }
 
         /** PAIR for each pair, and the LONGING of all in pairs together. */
-        int mostWeddings() {
+        static int mostWeddings(Town town) {
             return mostWed(town, town.everybody(), 0);
         }
 
@@ -1204,7 +1197,7 @@ public final class OvenPairs {
         }
 
         /** The least mate by which the OVENS of a set, from one of them on, still come to MOST. */
-        private int firstMate(int set, int from) {
+        private static int firstMate(Town town, int set, int from) {
             int most = mostWed(town, set, from);
             for (int other = from + 1; other < town.count; other++) {
                 if ((set >> other & 1) != 0 && town.isPair(from, other)
@@ -1215,11 +1208,11 @@ public final class OvenPairs {
             return NOBODY;
         }
 
-        int mateOf(int o) {
+        static int mateOf(Town town, int o) {
             int set = town.everybody();
             for (int from = 0; from <= o; from++) {
                 if ((set >> from & 1) != 0) {
-                    int mate = firstMate(set, from);
+                    int mate = firstMate(town, set, from);
                     if (from == o || mate == o) {
                         return from == o ? mate : from;
                     }
@@ -1229,7 +1222,7 @@ public final class OvenPairs {
             return NOBODY;
         }
 
-        int bestWorth(int n) {
+        static int bestWorth(Town town, int n) {
             return mostWorth(town, town.aways, town.night, n);
         }
 
@@ -1245,7 +1238,7 @@ public final class OvenPairs {
             return most;
         }
 
-        int firstBestAct(int aways, int night, int left) {
+        static int firstBestAct(Town town, int aways, int night, int left) {
             int first = 0;
             int most = -1;
             for (int act = 0; act <= town.count; act++) {
@@ -1259,7 +1252,7 @@ public final class OvenPairs {
             return first;
         }
 
-        int bestWays(int n) {
+        static int bestWays(Town town, int n) {
             int most = mostWorth(town, town.aways, town.night, n);
             return plansWorth(town, town.aways, town.night, n, most);
         }
@@ -1277,7 +1270,7 @@ public final class OvenPairs {
         }
 
         /** Above all that a PLAN can have, if no PLAN leads there. */
-        int actsTillHome(int n, int set) {
+        static int actsTillHome(Town town, int n, int set) {
             return fewestActs(town, town.aways, town.night, n, set);
         }
 
@@ -1294,7 +1287,7 @@ public final class OvenPairs {
             return fewest;
         }
 
-        int everHome(int n) {
+        static int everHome(Town town, int n) {
             return homeBehindSome(town, town.aways, town.night, n);
         }
 
@@ -1310,7 +1303,7 @@ public final class OvenPairs {
             return set;
         }
 
-        int valueOfGame(int n) {
+        static int valueOfGame(Town town, int n) {
             return gameValue(town, town.aways, town.night, n, true);
         }
 
@@ -1330,7 +1323,7 @@ public final class OvenPairs {
             return value;
         }
 
-        int firstMove(int n) {
+        static int firstMove(Town town, int n) {
             int first = 0;
             int most = -1;
             for (int act = 0; act <= town.count; act++) {

@@ -105,6 +105,11 @@ public final class LanguageTest {
         Matcher calls = Pattern.compile("\\b(Integer|Long|Math|System|Arrays|String|StringBuilder)\\.(\\w+)").matcher(code);
         Set<String> known = Set.of("bitCount", "numberOfTrailingZeros", "abs", "max", "min", "arraycopy");
         while (calls.find()) no("rule 4: " + calls.group(), !known.contains(calls.group(2)));
+        no("rule 12: this is handed out", Pattern.compile("[(,] *this *[,)]|return this;").matcher(code).find());
+        // a field's initialiser belongs to the constructor: what it makes of the object it must not hand on
+        String field = "(?m)^(?: {4}| {8})(?:private |static )*final [^=\n(]*";
+        Matcher handed = Pattern.compile(field + " = new \\w+\\([^)\n]*[a-z][^)\n]*\\);$").matcher(code);
+        while (handed.find()) no("rule 12: handed out: " + handed.group().strip(), true);
         String[] lines = source.split("\n");
         for (int k = 0; k < lines.length; k++) {
             String line = lines[k];
